@@ -120,6 +120,16 @@ public final class FlightTest {
         fault("r5:5=55a", 8);
         fault("a=1" + (char) 0, 3);
         fault("a=1" + (char) 160, 3);
+        String blanks = " ".repeat(77);
+        fault(blanks + "   ", -9);
+        fault(blanks + "a=1", -9);
+        fault(blanks + "=a=", 77);
+        fault(blanks + " a=", 80);
+        fault(blanks + "  a", 80);
+        fault(blanks + "  r", 80);
+        fault(blanks + " l9", 80);
+        fault(blanks + "r9:", 80);
+        fault(blanks + "120", 77);
     }
 
     /** Promises 15, 16. */

@@ -201,12 +201,17 @@ public final class OddsTest {
         CHECK.odds("nobody is there", x, x.truly(1, 0), 1, 0, 1);
         CHECK.finding("no voice", x, x.truly(1, 2), Make.UNLIKE);
         CHECK.finding("NOTHING ahead of UNLIKE", x, x.truly(2, 2), Make.NOTHING);
-        for (int e = 3; e < 9; e++) {
+        for (int e = 3; e < 8; e++) {
+            CHECK.due("with no more than six", x.truly(1, 1), 1);
             x.sign(6, 0, 0, 0);
         }
         CHECK.finding("UNLIKE ahead of SPENT", x, x.truly(1, 2), Make.UNLIKE);
         CHECK.due("SPENT", x.truly(1, 0), TwoFliers.SPENT);
-        CHECK.due("no sign", x.truly(1, 9), TwoFliers.BAD);
+        CHECK.due("no sign", x.truly(1, 8), TwoFliers.BAD);
+        TwoFliers y = new TwoFliers();
+        y.sign(5, 0, 2, 12);
+        y.undo(0, 1);
+        CHECK.odds("all WEIGHT is 1", y, y.truly(0, 0), 1, 0, 1);
         CHECK.due("no story", x.truly(4, 0), TwoFliers.BAD);
     }
 

@@ -143,8 +143,9 @@ public final class SignsTest {
         CHECK.due("an UNDONE one is of its KIND", x.mark(4, 4), 6);
         x.sign(7, 119, 1, 0);
         CHECK.due("found, but theirs by none", x.mark(8, 7), 120);
+        CHECK.due("saw the first corner", x.mark(x.sign(4, 0, 13, 12), 4), 4);
         int[] least = {4, 3, 2, 1, 0, 0};
-        for (int loud = 0; loud <= 2; loud++) {
+        for (int loud = 0; loud <= 1; loud++) {
             CHECK.due("heard " + loud, x.mark(x.sign(1, 0, 66, loud), 1), least[loud]);
         }
     }
