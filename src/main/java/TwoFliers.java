@@ -45,14 +45,9 @@ public final class TwoFliers {
     }
 
     public int lay(int r, int i, int v) {
-        if (!isRow(r)) {
-            return BAD;
-        }
-        if (rowSizes[r] == MISSING) {
-            return found(NOTHING);
-        }
-        if (i < 0 || i >= rowSizes[r]) {
-            return found(BEYOND);
+        int refusal = barredPlace(r, i);
+        if (refusal != 0) {
+            return refusal;
         }
         lastAsked = rows[r][i];
         rows[r][i] = v;
@@ -60,14 +55,9 @@ public final class TwoFliers {
     }
 
     public int at(int r, int i) {
-        if (!isRow(r)) {
-            return BAD;
-        }
-        if (rowSizes[r] == MISSING) {
-            return found(NOTHING);
-        }
-        if (i < 0 || i >= rowSizes[r]) {
-            return found(BEYOND);
+        int refusal = barredPlace(r, i);
+        if (refusal != 0) {
+            return refusal;
         }
         lastAsked = rows[r][i];
         return 1;
@@ -338,15 +328,11 @@ public final class TwoFliers {
         if (!isStory(k) || !Chart.isCell(cell)) {
             return BAD;
         }
-        int bar = barred(k, MOST_SIGNS);
-        if (bar != 0) {
-            return bar;
+        int refusal = weighed(k);
+        if (refusal != 0) {
+            return refusal;
         }
-        long all = odds.weigh(k, NONE);
-        if (all <= 0) {
-            return found(NOUGHT);
-        }
-        fraction(odds.weight[cell], all);
+        fraction(odds.weight[cell], odds.all);
         return 1;
     }
 
@@ -354,16 +340,12 @@ public final class TwoFliers {
         if (!isStory(k)) {
             return BAD;
         }
-        int bar = barred(k, MOST_SIGNS);
-        if (bar != 0) {
-            return bar;
-        }
-        long all = odds.weigh(k, NONE);
-        if (all <= 0) {
-            return found(NOUGHT);
+        int refusal = weighed(k);
+        if (refusal != 0) {
+            return refusal;
         }
         int cell = odds.greatest();
-        fraction(odds.weight[cell], all);
+        fraction(odds.weight[cell], odds.all);
         return cell;
     }
 
@@ -371,18 +353,14 @@ public final class TwoFliers {
         if (!isStory(k) || a < 1 || b > 99 || a > b) {
             return BAD;
         }
-        int bar = barred(k, MOST_SIGNS);
-        if (bar != 0) {
-            return bar;
-        }
-        long all = odds.weigh(k, NONE);
-        if (all <= 0) {
-            return found(NOUGHT);
+        int refusal = weighed(k);
+        if (refusal != 0) {
+            return refusal;
         }
         int many = 0;
         int first = NONE;
         for (int cell = Chart.CELLS - 1; cell >= 0; cell--) {
-            if (odds.weight[cell] * b >= all * a) {
+            if (odds.weight[cell] * b >= odds.all * a) {
                 many++;
                 first = cell;
             }
@@ -395,15 +373,11 @@ public final class TwoFliers {
         if (!isWithin(h, Plane.MOST_HOURS) || !Chart.isCell(cell)) {
             return BAD;
         }
-        int bar = barred(0, MOST_SIGNS);
-        if (bar != 0) {
-            return bar;
+        int refusal = weighed(0);
+        if (refusal != 0) {
+            return refusal;
         }
-        long all = odds.weigh(0, NONE);
-        if (all <= 0) {
-            return found(NOUGHT);
-        }
-        fraction(odds.weighThrough(h, cell), all);
+        fraction(odds.weighThrough(h, cell), odds.all);
         return 1;
     }
 
@@ -411,15 +385,11 @@ public final class TwoFliers {
         if (!isWithin(h, Plane.MOST_HOURS)) {
             return BAD;
         }
-        int bar = barred(0, MOST_SIGNS);
-        if (bar != 0) {
-            return bar;
+        int refusal = weighed(0);
+        if (refusal != 0) {
+            return refusal;
         }
-        long all = odds.weigh(0, NONE);
-        if (all <= 0) {
-            return found(NOUGHT);
-        }
-        fraction(odds.byHour[h], all);
+        fraction(odds.byHour[h], odds.all);
         return 1;
     }
 
@@ -427,9 +397,9 @@ public final class TwoFliers {
         if (!isStory(k) || !book.has(e) || !Chart.isCell(cell)) {
             return BAD;
         }
-        int bar = barred(k, MOST_SIGNS_FALLS);
-        if (bar != 0) {
-            return bar;
+        int refusal = barred(k, MOST_SIGNS_FALLS);
+        if (refusal != 0) {
+            return refusal;
         }
         long allWith = odds.weigh(k, NONE);
         long with = odds.weight[cell];
@@ -446,9 +416,9 @@ public final class TwoFliers {
         if (!isStory(k)) {
             return BAD;
         }
-        int bar = barred(k, MOST_SIGNS);
-        if (bar != 0) {
-            return bar;
+        int refusal = barred(k, MOST_SIGNS);
+        if (refusal != 0) {
+            return refusal;
         }
         int most = odds.weigh(k, NONE) > 0 ? odds.greatest() : NONE;
         int bits = 0;
@@ -471,12 +441,9 @@ public final class TwoFliers {
         if (!book.signs[e].is(Sign.VOICE)) {
             return found(UNLIKE);
         }
-        if (book.busy() > MOST_SIGNS) {
-            return SPENT;
-        }
-        long all = odds.weigh(k, NONE);
-        if (all <= 0) {
-            return found(NOUGHT);
+        int refusal = weighed(k);
+        if (refusal != 0) {
+            return refusal;
         }
         long there = 0;
         for (int cell = 0; cell < Chart.CELLS; cell++) {
@@ -484,7 +451,7 @@ public final class TwoFliers {
                 there += odds.weight[cell];
             }
         }
-        fraction(there, all);
+        fraction(there, odds.all);
         return 1;
     }
 
@@ -537,17 +504,13 @@ public final class TwoFliers {
         if (!isStory(k) || !Chart.isCell(cell) || !Chart.isSide(side)) {
             return BAD;
         }
-        int bar = barred(k, MOST_SIGNS);
-        if (bar != 0) {
-            return bar;
-        }
-        long all = odds.weigh(k, NONE);
-        if (all <= 0) {
-            return found(NOUGHT);
+        int refusal = weighed(k);
+        if (refusal != 0) {
+            return refusal;
         }
         int across = Chart.turned(side, 4);
         long weight = odds.weight[cell] + odds.weightBehind(cell, side) + odds.weightBehind(cell, across);
-        fraction(weight, all);
+        fraction(weight, odds.all);
         return 1 + Chart.manyBehind(cell, side) + Chart.manyBehind(cell, across);
     }
 
@@ -557,15 +520,11 @@ public final class TwoFliers {
         if (!isStory(k) || !Chart.isCell(from) || !isWithin(n, Ship.MOST_HOURS) || !isRow(r)) {
             return BAD;
         }
-        int bar = barred(k, MOST_SIGNS);
-        if (bar != 0) {
-            return bar;
+        int refusal = weighed(k);
+        if (refusal != 0) {
+            return refusal;
         }
-        long all = odds.weigh(k, NONE);
-        if (all <= 0) {
-            return found(NOUGHT);
-        }
-        fraction(ship.search(odds.weight, odds.weight[odds.greatest()], from, n), all);
+        fraction(ship.search(odds.weight, odds.weight[odds.greatest()], from, n), odds.all);
         renew(r, n + 1);
         System.arraycopy(ship.bestWay, 0, rows[r], 0, n + 1);
         return ship.unlikeCells(n);
@@ -753,6 +712,17 @@ public final class TwoFliers {
         return i >= 0 && i <= size && n <= size - i;
     }
 
+    /** Why place i of a ROW is refused; 0 if it is not. */
+    private int barredPlace(int r, int i) {
+        if (!isRow(r)) {
+            return BAD;
+        }
+        if (rowSizes[r] == MISSING) {
+            return found(NOTHING);
+        }
+        return i < 0 || i >= rowSizes[r] ? found(BEYOND) : 0;
+    }
+
     private void renew(int r, int n) {
         rowSizes[r] = n;
         Arrays.fill(rows[r], 0);
@@ -770,6 +740,15 @@ public final class TwoFliers {
             return found(NOTHING);
         }
         return book.busy() > mostSigns ? SPENT : 0;
+    }
+
+    /** Weighs STORY k by all SIGNS: 0, or why it is refused. */
+    private int weighed(int k) {
+        int refusal = barred(k, MOST_SIGNS);
+        if (refusal != 0) {
+            return refusal;
+        }
+        return odds.weigh(k, NONE) > 0 ? 0 : found(NOUGHT);
     }
 
     private void fraction(long up, long low) {
@@ -1272,12 +1251,14 @@ public final class TwoFliers {
         final int[][] stories = new int[STORIES][Chart.CELLS];
         final long[] weight = new long[Chart.CELLS];
         final long[] byHour = new long[Plane.MOST_HOURS + 1];
+        long all = 0;
         private long[] now = new long[Chart.CELLS];
         private long[] next = new long[Chart.CELLS];
 
-        /** WEIGHTS by STORY k without one SIGN (or NONE): weight[] by CELLS, byHour[] of a FLIGHT; answers all. */
+        /** WEIGHTS by STORY k without one SIGN (or NONE): weight[] by CELLS, byHour[] of a FLIGHT; and all, its answer. */
         long weigh(int k, int without) {
-            return k == 0 ? weighFlight(without, NONE, NONE) : weighText(stories[k - 1], without);
+            all = k == 0 ? weighFlight(without, NONE, NONE) : weighText(stories[k - 1], without);
+            return all;
         }
 
         /** WEIGHT of the ways that are in a CELL at an hour, up or ending. */
@@ -1325,7 +1306,7 @@ public final class TwoFliers {
         }
 
         private long weighText(int[] story, int without) {
-            long all = 0;
+            long sum = 0;
             for (int cell = 0; cell < Chart.CELLS; cell++) {
                 long product = story[cell];
                 for (int e = 0; e < book.many && product != 0; e++) {
@@ -1335,9 +1316,9 @@ public final class TwoFliers {
                     }
                 }
                 weight[cell] = product;
-                all += product;
+                sum += product;
             }
-            return all;
+            return sum;
         }
 
         /** Hour by hour; with atHour only ways that are in atCell then are counted. */
@@ -1346,7 +1327,7 @@ public final class TwoFliers {
             Arrays.fill(byHour, 0);
             Arrays.fill(now, 0);
             now[plane.cell] = 1;
-            long all = 0;
+            long sum = 0;
             for (int h = 0; h <= plane.hours; h++) {
                 weighByHour(h, without);
                 if (h == atHour) {
@@ -1354,13 +1335,13 @@ public final class TwoFliers {
                 }
                 if (h >= atHour) {
                     byHour[h] = land(h, without);
-                    all += byHour[h];
+                    sum += byHour[h];
                 }
                 if (h < plane.hours) {
                     spread(plane.courses[h]);
                 }
             }
-            return all;
+            return sum;
         }
 
         private void weighByHour(int h, int without) {
