@@ -365,6 +365,10 @@ public final class EdgesOddsTest {
         watch(x).odds("hour 0", () -> x.ended(0), 1, 1, 2);
         watch(x).odds("hour 5", () -> x.ended(5), 1, 1, 18);
         watch(x).odds("hour 6 of six", () -> x.ended(6), 1, 2, 9);
+        Make.flight(x, 66, 0);
+        watch(x).odds("hour 6 of a FLIGHT anew", () -> x.ended(6), 1, 0, 1);
+        watch(x).odds("hour 0 of it", () -> x.ended(0), 1, 0, 1);
+        watch(x).odds("hour 1 of it", () -> x.ended(1), 1, 1, 1);
     }
 
     private static void ended(int kind, int a, int b, int c, long up, long low) {
@@ -420,6 +424,16 @@ public final class EdgesOddsTest {
             Make.flight(x, 66, 2, 2);
             x.sign(k[0], k[1], k[2], k[3]);
             where(x, 0, 68, k[4], k[5]);
+        }
+        for (int kind = 4; kind <= 7; kind++) {
+            for (int a = 0; a <= 2; a++) {
+                TwoFliers x = new TwoFliers();
+                Make.flight(x, 66, 2, 2);
+                Make.ends(x, 1, 1, 1);
+                x.sign(kind, a, 0, 0);
+                // A CELL is no hour: what weighs 12 wherever it is at last weighs so for all ends.
+                CHECK.odds("kind " + kind + " of CELL " + a, x, x.ended(0), 1, 1, 3);
+            }
         }
         TwoFliers x = new TwoFliers();
         Make.flight(x, 66, 2, 2);
@@ -550,6 +564,10 @@ public final class EdgesOddsTest {
         watch(y).same("each of three", () -> y.turns(1), 7);
         Make.story(y, 1, "r0:0=5 r119:0=1");
         watch(y).same("none of three", () -> y.turns(1), 0);
+        TwoFliers z = new TwoFliers();
+        Make.story(z, 1, "r0:0=1");
+        z.sign(2, 0, 119, 0);
+        watch(z).same("all WEIGHT is just 1, with and without", () -> z.turns(1), 0);
     }
 
     /** turns(): "(or all WEIGHT was 0, and is not)". */
@@ -587,6 +605,14 @@ public final class EdgesOddsTest {
         watch(y).odds("EARS are on no SIDE", () -> y.truly(0, 0), 1, 0, 1);
         y.sign(5, 65, 2, 12);
         watch(y).odds("all of it", () -> y.truly(0, 1), 1, 1, 1);
+        TwoFliers z = new TwoFliers();
+        Make.story(z, 1, "r0:0=1 r119:0=1");
+        z.sign(5, 1, 6, 0);
+        z.sign(5, 118, 2, 0);
+        z.sign(5, 108, 4, 0);
+        watch(z).odds("the first CELL", () -> z.truly(1, 0), 1, 1, 2);
+        watch(z).odds("the last CELL", () -> z.truly(1, 1), 1, 1, 2);
+        watch(z).odds("south of the map", () -> z.truly(1, 2), 1, 0, 1);
     }
 
     /** truly(): "BAD; NOTHING; UNLIKE: no VOICE; SPENT; NOUGHT. (In this order.)" */
@@ -634,6 +660,21 @@ public final class EdgesOddsTest {
         watch(x).asks("a VOICE from where no CELL is", () -> x.cross(1), 0, 0);
         x.undo(2, 0);
         watch(x).asks("a VOICE, whatever its p", () -> x.cross(1), 17, 46);
+        int[][] known = {
+            // EARS, a SIDE, how many CELLS are there, and the first of those on most
+            {1, 6, 1, 0}, {118, 2, 1, 119}, {0, 0, 0, 0}, {108, 4, 0, 0}, {119, 4, 0, 0}, {12, 7, 0, 0}, {12, 0, 1, 0}, {107, 4, 1, 119}};
+        for (int[] k : known) {
+            TwoFliers y = new TwoFliers();
+            y.near(2);
+            y.sign(5, k[0], k[1], 0);
+            watch(y).asks("from " + k[0] + " to side " + k[1], () -> y.cross(1), k[2], k[3]);
+        }
+        TwoFliers z = new TwoFliers();
+        for (int e = 0; e < 12; e++) {
+            z.sign(6, 66, 2, 0);
+        }
+        z.near(2);
+        watch(z).asks("twelve, and none is such a VOICE", () -> z.cross(1), 0, -9);
     }
 
     /** "How many CELLS are on the SIDES of n .. or more VOICES ..; the first of those on most". */

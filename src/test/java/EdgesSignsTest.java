@@ -311,6 +311,8 @@ public final class EdgesSignsTest {
         mark(2, 0, 0, 0, 2, 1);
         mark(2, 0, 0, 5, 2, 36);
         mark(2, 6, 119, 1, 2, 4);
+        mark(2, 6, 108, 1, 2, 4);
+        mark(2, 6, 11, 1, 2, 4);
         mark(2, 0, 66, 1, 2, 9);
         mark(2, 0, 66, 5, 2, 110);
         mark(3, 0, 0, 0, 3, 0);
@@ -327,6 +329,8 @@ public final class EdgesSignsTest {
         mark(6, 0, 7, 0, 6, 0);
         mark(7, 0, 0, 12, 7, 1);
         mark(7, 0, 9, 1, 7, 100);
+        mark(7, 119, 1, 12, 7, 4);
+        mark(7, 108, 1, 12, 7, 4);
         mark(7, 66, 9, 12, 7, 120);
         mark(7, 66, 1, 1, 7, 9);
         // Theirs by none: all CELLS weigh 12.
