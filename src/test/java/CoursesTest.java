@@ -171,10 +171,10 @@ public final class CoursesTest {
         int[][] wrong = {
             {0, -1}, {0, 120}, {1, -1}, {1, 7}, {1, 2}, {1, 4}, {2, -1}, {4, 8}, {4, -9}, {5, 0}, {7, -1}, {7, 0},
             {8, -1}, {8, 10}, {11, -9}, {11, 10}, {12, 0}, {14, 0}, {14, -1}, {15, -1}, {15, 4}, {15, -2147483648}};
-        TwoFliers x = new TwoFliers();
-        x.sign(0, 0, 0, 0);
-        x.sign(0, 0, 0, 0);
         for (int[] w : wrong) {
+            TwoFliers x = new TwoFliers();
+            x.sign(0, 0, 0, 0);
+            x.sign(0, 0, 0, 0);
             int[] changed = image.clone();
             changed[w[0]] = w[1];
             Make.row(x, 2, changed);
@@ -182,6 +182,9 @@ public final class CoursesTest {
             CHECK.finding("place " + w[0] + " is " + w[1], x, x.on(2), Make.UNLIKE);
             CHECK.due("nothing changed", x.digest(), was);
         }
+        TwoFliers x = new TwoFliers();
+        x.sign(0, 0, 0, 0);
+        x.sign(0, 0, 0, 0);
         Make.row(x, 2, 66, 1, 1, -9, -9, -9, -9, -9, 0, 0, -9, -9, -9, -9, -9, 0);
         CHECK.finding("all ENDS 0", x, x.on(2), Make.UNLIKE);
         Make.row(x, 2, image);

@@ -343,26 +343,29 @@ public final class EdgesSignsTest {
         for (int e : new int[] {-1, 0, LEAST, MOST}) {
             watch(x).bad("weighs of " + e, () -> x.weighs(e, 0));
         }
-        for (int k = 0; k <= 7; k++) {
-            int kind = k;
-            x.sign(kind, 0, 0, 0);
-            int last = k == 3 ? 6 : 119;
-            for (int undone = 0; undone <= 1; undone++) {
-                x.undo(k, undone);
-                for (int cell : new int[] {-1, last + 1, LEAST, MOST}) {
-                    watch(x).bad("kind " + k + " at " + cell, () -> x.weighs(kind, cell));
-                }
-                CHECK.due("kind " + k + " at 0", x.weighs(k, 0) >= 0 ? 1 : 0, 1);
-                CHECK.due("kind " + k + " at " + last, x.weighs(k, last) >= 0 ? 1 : 0, 1);
-            }
+        for (int kind = 0; kind <= 7; kind++) {
+            placesOfKind(kind, kind == 3 ? 6 : 119);
         }
-        watch(x).bad("weighs of 8", () -> x.weighs(8, 0));
+    }
+
+    private static void placesOfKind(int kind, int last) {
+        TwoFliers x = new TwoFliers();
+        x.sign(kind, 0, 0, 0);
+        for (int undone = 0; undone <= 1; undone++) {
+            x.undo(0, undone);
+            for (int cell : new int[] {-1, last + 1, LEAST, MOST}) {
+                watch(x).bad("kind " + kind + " at " + cell, () -> x.weighs(0, cell));
+            }
+            CHECK.due("kind " + kind + " at 0", x.weighs(0, 0) >= 0 ? 1 : 0, 1);
+            CHECK.due("kind " + kind + " at " + last, x.weighs(0, last) >= 0 ? 1 : 0, 1);
+        }
+        watch(x).bad("weighs of 1", () -> x.weighs(1, 0));
     }
 
     private static void weighs(int kind, int a, int b, int c, int... due) {
-        TwoFliers x = new TwoFliers();
-        x.sign(kind, a, b, c);
         for (int undone = 0; undone <= 1; undone++) {
+            TwoFliers x = new TwoFliers();
+            x.sign(kind, a, b, c);
             x.undo(0, undone);
             for (int i = 0; i < due.length; i += 2) {
                 int place = due[i];

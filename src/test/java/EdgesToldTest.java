@@ -261,8 +261,8 @@ public final class EdgesToldTest {
         }
     }
 
-    /** The digest by the calls of the face and by what ROWS and TEXTS hold (null: missing). */
-    private static long digestOf(TwoFliers x, int[][] rows, int[][] texts) {
+    /** The digest by the calls of the face and by what STORIES 1 .. 3, ROWS and TEXTS hold (null: missing). */
+    private static long digestOf(TwoFliers x, int[][] stories, int[][] rows, int[][] texts) {
         long h = 17;
         for (int what = 0; what <= 6; what++) {
             h = 31 * h + x.count(what);
@@ -271,14 +271,14 @@ public final class EdgesToldTest {
             x.plan(what);
             h = 31 * h + x.asked();
         }
-        for (int k = 1; k <= 3; k++) {
-            boolean missing = x.lies(k, 0) == TwoFliers.FINDING;
-            h = missing ? 31 * h - 1 : h;
-            for (int cell = 0; cell < 120 && !missing; cell++) {
-                h = 31 * h + x.lies(k, cell);
+        for (int[] story : stories) {
+            h = story == null ? 31 * h - 1 : h;
+            for (int cell = 0; cell < 120 && story != null; cell++) {
+                h = 31 * h + story[cell];
             }
         }
-        for (int e = 0; e < x.count(2); e++) {
+        int signs = x.count(2);
+        for (int e = 0; e < signs; e++) {
             for (int what = 0; what <= 4; what++) {
                 x.told(e, what);
                 h = 31 * h + x.asked();
@@ -301,7 +301,7 @@ public final class EdgesToldTest {
     /** digest() of a new object. */
     private static void digestNew() {
         TwoFliers x = new TwoFliers();
-        CHECK.due("new", x.digest(), digestOf(new TwoFliers(), new int[6][], new int[4][]));
+        CHECK.due("new", x.digest(), digestOf(new TwoFliers(), new int[3][], new int[6][], new int[4][]));
         // By hand: seven 0, then 0, 0, six NONE, 1, six NONE, then thirteen -1.
         long h = 17;
         int[] v = {0, 0, 0, 0, 0, 0, 0, 0, 0, -9, -9, -9, -9, -9, -9, 1, -9, -9, -9, -9, -9, -9};
@@ -320,8 +320,12 @@ public final class EdgesToldTest {
         Make.flight(x, 119, 7, 7, 7, 7, 7, 7);
         Make.ends(x, 9, 9, 9, 9, 9, 9, 9);
         Make.story(x, 1, "a=99");
-        Make.story(x, 2, "r60:3=98");
+        Make.story(x, 2, "r60:0=98 r119:0=7");
         Make.story(x, 3, "");
+        int[][] stories = new int[3][120];
+        java.util.Arrays.fill(stories[0], 99);
+        stories[1][60] = 98;
+        stories[1][119] = 7;
         for (int e = 0; e < 12; e++) {
             x.sign(e % 8, 5, 5, 5);
             x.undo(e, e / 3 % 2);
@@ -349,7 +353,7 @@ public final class EdgesToldTest {
         CHECK.due("asked() stays", x.asked(), 4);
         CHECK.due("upper() stays", x.upper(), 0);
         CHECK.due("finding() stays", x.finding(), 0);
-        CHECK.due("full", got, digestOf(x, rows, texts));
+        CHECK.due("full", got, digestOf(x, stories, rows, texts));
     }
 
     /** Each part that digest() names, changed alone, changes it; what was told does not. */
@@ -383,29 +387,31 @@ public final class EdgesToldTest {
             int[][] rows = none.clone();
             rows[r] = new int[0];
             x.row(r, 0);
-            CHECK.due("empty row " + r, x.digest(), digestOf(x, rows, new int[4][]));
+            CHECK.due("empty row " + r, x.digest(), digestOf(x, new int[3][], rows, new int[4][]));
             rows[r] = new int[] {0};
             x.row(r, 1);
-            CHECK.due("row " + r + " of one 0", x.digest(), digestOf(x, rows, new int[4][]));
+            CHECK.due("row " + r + " of one 0", x.digest(), digestOf(x, new int[3][], rows, new int[4][]));
             x.tear(r);
-            CHECK.due("torn row " + r, x.digest(), digestOf(x, none, new int[4][]));
+            CHECK.due("torn row " + r, x.digest(), digestOf(x, new int[3][], none, new int[4][]));
         }
         for (int t = 0; t < 4; t++) {
             TwoFliers x = new TwoFliers();
             int[][] texts = new int[4][];
             texts[t] = new int[0];
             x.text(t, 0);
-            CHECK.due("empty text " + t, x.digest(), digestOf(x, none, texts));
+            CHECK.due("empty text " + t, x.digest(), digestOf(x, new int[3][], none, texts));
             texts[t] = new int[] {32, -1};
             x.text(t, 2);
             x.put(t, 1, 255);
-            CHECK.due("text " + t + " of two", x.digest(), digestOf(x, none, texts));
+            CHECK.due("text " + t + " of two", x.digest(), digestOf(x, new int[3][], none, texts));
         }
         for (int k = 1; k <= 3; k++) {
             TwoFliers x = new TwoFliers();
             int[][] texts = {{}, null, null, null};
+            int[][] stories = new int[3][];
+            stories[k - 1] = new int[120];
             Make.story(x, k, "");
-            CHECK.due("story " + k + " that weighs nothing", x.digest(), digestOf(x, none, texts));
+            CHECK.due("story " + k + " that weighs nothing", x.digest(), digestOf(x, stories, none, texts));
         }
     }
 

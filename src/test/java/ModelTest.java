@@ -2,7 +2,9 @@ import java.util.Random;
 
 /** Runs of drawn calls on the class and on the model; after each call all that is told must be alike. */
 public final class ModelTest {
-    private static final int RUNS = 700, CALLS = 128, CALLS_OF_FACE = 42;
+    private static final int RUNS = 2500, CALLS_OF_FACE = 42;
+    /** An object is promised for 512 calls; the dearest step makes some hundred. */
+    private static final int CALLS = 512, DEAREST_STEP = 110;
     private static final int[] ODD = {-1, -2147483648, 2147483647, 120, 41, 81, 7, 8, 13, 6, 4, 5, 12, 99, 100, -9, 0, 1, 2};
     private static final String SIGNS = "rla:= 0123456789x";
     private static final String[] STORIES = {
@@ -13,6 +15,7 @@ public final class ModelTest {
     private final TwoFliers x = new TwoFliers();
     private final Model m = new Model();
     private final int[] a = new int[5];
+    private int made = 0;
 
     private ModelTest(long seed) {
         random = new Random(seed);
@@ -35,6 +38,7 @@ public final class ModelTest {
         int r = random.nextInt(6);
         int kind = random.nextInt(4);
         int n = kind == 0 ? m.courses.length + 1 : kind == 1 ? random.nextInt(7) : kind == 2 ? 4 * random.nextInt(3) : random.nextInt(41);
+        made += n + 2;
         if (x.row(r, n) != m.row(r, n)) return false;
         for (int i = 0; i < n; i++) {
             int v = kind == 0 ? number(9) * random.nextInt(2) : kind == 1 ? number(7) : kind == 2 ? signNumber(i % 4) : random.nextInt();
@@ -74,6 +78,7 @@ public final class ModelTest {
         String s = STORIES[random.nextInt(STORIES.length)];
         if (random.nextInt(4) == 0) s += STORIES[random.nextInt(STORIES.length)];
         int n = Math.min(80, s.length());
+        made += n + 5;
         boolean alike = x.text(t, n) == m.text(t, n);
         for (int i = 0; i < n; i++) alike &= x.put(t, i, s.charAt(i)) == m.put(t, i, s.charAt(i));
         for (int i = random.nextInt(3); i < 2 && n > 0; i++) {
@@ -138,6 +143,7 @@ public final class ModelTest {
     /** UNDONE are most of many, so that odds are seldom SPENT. */
     private boolean undoMany() {
         boolean alike = true;
+        made += m.signs.size();
         for (int e = 0; e < m.signs.size(); e++) {
             int is = random.nextInt(m.signs.size()) < 4 ? 0 : 1;
             alike &= x.undo(e, is) == m.undo(e, is);
@@ -147,6 +153,7 @@ public final class ModelTest {
 
     private boolean imageChanged() {
         int r = random.nextInt(6);
+        made += 4;
         boolean alike = x.image(r) == m.image(r);
         for (int i = random.nextInt(3); i < 2; i++) {
             int at = random.nextInt(16);
@@ -157,18 +164,33 @@ public final class ModelTest {
     }
 
     private boolean toldAlike() {
+        made += 5;
         boolean alike = x.asked() == m.asked && x.finding() == m.finding && x.digest() == m.digest();
         alike &= x.upper() == m.upper.longValueExact() && x.lower() == m.lower.longValueExact();
+        return alike;
+    }
+
+    private boolean findingsAlike() {
+        boolean alike = true;
         for (int f = 1; f <= 5; f++) alike &= x.findings(f) == m.findings[f];
         return alike;
     }
 
+    /** Some SIGNS ahead, so that a short run, too, has many. */
+    private boolean signsAhead() {
+        boolean alike = true;
+        for (int n = random.nextInt(12); n > 0; n--, made++) alike &= call(13);
+        return alike;
+    }
+
     private int firstUnlike() {
-        for (int n = 0; n < CALLS; n++) {
+        if (!signsAhead()) return 13;
+        for (int n = 0; made < CALLS - DEAREST_STEP; n++) {
+            made++;
             int which = n == 0 ? 38 : random.nextInt(12) == 0 ? 13 : random.nextInt(CALLS_OF_FACE);
             if (!call(which) || !toldAlike()) return which;
         }
-        return -1;
+        return findingsAlike() ? -1 : 36;
     }
 
     public static void main(String[] args) {

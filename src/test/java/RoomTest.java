@@ -33,7 +33,7 @@ public final class RoomTest {
         for (int e = 0; e < 6; e++) {
             x.sign(e + 2, e, e, 0);
         }
-        for (int n = 0; n < 40; n++) {
+        for (int n = 0; n < 32; n++) {
             x.story(1 + n % 3, 0);
             x.where(0, n);
             x.most(n % 4);
