@@ -815,10 +815,11 @@ public final class TwoFliers {
             if (x == 0 && y == 0) {
                 return NONE;
             }
-            if (Math.abs(x) >= 2 * Math.abs(y)) {
+            // Ways are held against one another by their squares, which have no sign.
+            if (x * x >= 4 * y * y) {
                 return x > 0 ? EAST : WEST;
             }
-            if (Math.abs(y) >= 2 * Math.abs(x)) {
+            if (y * y >= 4 * x * x) {
                 return y > 0 ? SOUTH : NORTH;
             }
             if (x > 0) {
@@ -1094,7 +1095,7 @@ public final class TwoFliers {
             return apart <= 2 * slip + 1 ? 4 : 1;
         }
 
-        private static int burntWeight(int off) {
+        static int burntWeight(int off) {
             switch (off) {
                 case 0:
                     return ALL;
@@ -1113,7 +1114,7 @@ public final class TwoFliers {
         }
 
         private static boolean isBetween(int v, int one, int other) {
-            return v >= Math.min(one, other) && v <= Math.max(one, other);
+            return one <= other ? v >= one && v <= other : v >= other && v <= one;
         }
 
         static int nearestHeard(int loud) {
@@ -1254,6 +1255,7 @@ public final class TwoFliers {
         long all = 0;
         private long[] now = new long[Chart.CELLS];
         private long[] next = new long[Chart.CELLS];
+        private final long[] atLast = new long[Chart.CELLS];
 
         /** WEIGHTS by STORY k without one SIGN (or NONE): weight[] by CELLS, byHour[] of a FLIGHT; and all, its answer. */
         long weigh(int k, int without) {
@@ -1327,6 +1329,7 @@ public final class TwoFliers {
             Arrays.fill(byHour, 0);
             Arrays.fill(now, 0);
             now[plane.cell] = 1;
+            weighAtLast(without);
             long sum = 0;
             for (int h = 0; h <= plane.hours; h++) {
                 weighByHour(h, without);
@@ -1369,7 +1372,7 @@ public final class TwoFliers {
             long sum = 0;
             for (int cell = 0; cell < Chart.CELLS && byEnd != 0; cell++) {
                 if (now[cell] != 0) {
-                    long landed = now[cell] * byEnd * weightAtLast(cell, without);
+                    long landed = now[cell] * byEnd * atLast[cell];
                     weight[cell] += landed;
                     sum += landed;
                 }
@@ -1384,7 +1387,7 @@ public final class TwoFliers {
                 Sign sign = book.signs[e];
                 if (weighsIn(e, without)) {
                     if (sign.kind == Sign.BURNT) {
-                        product *= sign.weight(h);
+                        product *= Sign.burntWeight(Math.abs(sign.a - h));
                     } else if (sign.isByHour() && sign.a > h) {
                         product *= Sign.ALL;
                     }
@@ -1393,15 +1396,17 @@ public final class TwoFliers {
             return product;
         }
 
-        private long weightAtLast(int cell, int without) {
-            long product = 1;
+        /** What SIGNS weigh by the CELL where it is at last: the same at every hour of its end. */
+        private void weighAtLast(int without) {
+            Arrays.fill(atLast, 1);
             for (int e = 0; e < book.many; e++) {
                 Sign sign = book.signs[e];
                 if (weighsIn(e, without) && sign.kind != Sign.BURNT && !sign.isByHour()) {
-                    product *= sign.weight(cell);
+                    for (int cell = 0; cell < Chart.CELLS; cell++) {
+                        atLast[cell] *= sign.weight(cell);
+                    }
                 }
             }
-            return product;
         }
 
         private void spread(int course) {
